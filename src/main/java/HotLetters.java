@@ -24,6 +24,8 @@ public final class HotLetters {
     private static final int PORTS = 4;
     private static final int ALL_PORTS = 15;
     private static final int RING_SWAPS = 2;
+    // Above what the weight of any letter can claim.
+    private static final int GOLDEN_CLAIM = 1000000;
 
     private static final int SEALED = 1, EXPRESS = 2, TURNING = 3, OPEN = 4, CHEAP = 5;
     private static final int WAITS = 0, FLIES = 1, DELIVERED = 2, LOST = 3;
@@ -851,7 +853,9 @@ public final class HotLetters {
             if (spot < 0 || spot > goldenCount || goldenCount > MOST_GOLDEN) {
                 return;
             }
-            System.arraycopy(goldenOnes, spot, goldenOnes, spot + 1, goldenCount - spot);
+            for (int i = goldenCount; i > spot; i--) {
+                goldenOnes[i] = goldenOnes[i - 1];
+            }
             goldenOnes[spot] = letter;
             goldenCount++;
         }
@@ -862,7 +866,9 @@ public final class HotLetters {
                 return;
             }
             goldenCount--;
-            System.arraycopy(goldenOnes, spot + 1, goldenOnes, spot, goldenCount - spot);
+            for (int i = spot; i < goldenCount; i++) {
+                goldenOnes[i] = goldenOnes[i + 1];
+            }
         }
 
         int theGoldenOne() {
@@ -1096,7 +1102,7 @@ public final class HotLetters {
         /** RANK as one number: no two letters have the same, and the higher rank has the greater. */
         private int claimOf(Net net, int letter) {
             if (letter == goldenOne) {
-                return Integer.MAX_VALUE;
+                return GOLDEN_CLAIM;
             }
             return MOST_LETTERS * (net.letters[letter].weight() + 1) - letter;
         }
@@ -1176,13 +1182,22 @@ public final class HotLetters {
             Letter letter = net.letters[number];
             int left = free[letter.place];
             int port = letter.byTaste(near[number] & left, 0);
-            if (port == NONE && left != 0) {
-                port = Integer.numberOfTrailingZeros(left);
+            if (port == NONE) {
+                port = leastOf(left);
             }
             if (port != NONE) {
                 going[number] = port;
                 free[letter.place] = left & ~(1 << port);
             }
+        }
+
+        private static int leastOf(int ports) {
+            for (int port = 0; port < PORTS; port++) {
+                if ((ports >> port & 1) == 1) {
+                    return port;
+                }
+            }
+            return NONE;
         }
 
         /** Two letters never came by one port; at most one was just put in and came by none. */
