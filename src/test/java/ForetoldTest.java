@@ -83,6 +83,10 @@ public final class ForetoldTest {
         Check.due("arrives(2)", x.arrives(2), Check.BAD);
         Check.due("arrives(0)", x.arrives(0), 2);
         Check.due("arrives(1)", x.arrives(1), 4);
+        x.turn(1);
+        x.cut(4, 1);
+        Check.due("by another way", x.arrives(0), 4);
+        x.undo();
         x.turn(9);
         Check.due("has arrived", x.arrives(1), 4);
         HotLetters lost = Check.told(CUT_OFF + "s1,0;s0,1;");
@@ -226,6 +230,7 @@ public final class ForetoldTest {
         Check.due("drawn(11, 1, 0)", x.drawn(11, 1, 0), Check.BAD);
         Check.due("drawn(1, 0, 0)", x.drawn(1, 0, 0), Check.BAD);
         Check.due("drawn(1, 1000000, 0)", x.drawn(1, 1000000, 0), Check.BAD);
+        Check.due("drawn(0, 999999, 0)", x.drawn(0, 999999, 0), 0);
         Check.due("drawn(1, 1, -1)", x.drawn(1, 1, -1), Check.BAD);
         Check.due("drawn(1, 1, 3)", x.drawn(1, 1, 3), Check.BAD);
         Check.due("no years", x.drawn(0, 1, 0), 0);
@@ -243,6 +248,10 @@ public final class ForetoldTest {
         Check.due("it grows old", off.drawn(1, 13, 0), 10);
         Check.due("it is lost", off.drawn(1, 13, 1), 1);
         Check.due("aside all the time", off.drawn(1, 13, 2), 10);
+        // X is 100842: from 10 to 15 of KIND 4, OPEN, so by 14, where letter 0 takes the way.
+        HotLetters open = Check.told("g4,4,0,10;s13,11;");
+        Check.due("it comes in TURN 4", open.drawn(1, 6, 0), 4);
+        Check.due("once aside", open.drawn(1, 6, 2), 1);
         HotLetters full = Check.told("g2,2,0,10;");
         for (int i = 0; i < 40; i++) {
             full.write(1, i % 4, (i + 1) % 4);
@@ -288,6 +297,26 @@ public final class ForetoldTest {
         Check.due("an image anew", x.image(0), 1);
         x.restore(0);
         Check.due("is the later one", x.count(4), 3);
+        imageOfAllThatWas();
+    }
+
+    private static void imageOfAllThatWas() {
+        HotLetters x = Check.told("g3,3,0,20;s3,5;o1,5;s8,7;");
+        x.turn(1);
+        x.cut(4, 0);
+        x.cut(4, 2);
+        x.cut(4, 3);
+        x.turn(1);
+        x.image(0);
+        Check.feed(x, "g2,2,0,10;s0,1;s0,2;s0,3;");
+        x.net();
+        x.turn(9);
+        x.restore(0);
+        Check.due("log(0)", x.log(0), 2);
+        Check.due("why(1, 1, 0)", x.why(1, 1, 0), 3);
+        Check.due("why(1, 1, 1)", x.why(1, 1, 1), 4);
+        Check.due("why(1, 2, 1)", x.why(1, 2, 1), 3);
+        Check.due("sums(5)", x.sums(5), 1);
     }
 
     private static void count() {

@@ -121,6 +121,14 @@ public final class ThereTest {
         old.bless(0);
         old.turn(11);
         Check.due("lost, golden no more", old.golden(0), Check.NONE);
+        HotLetters overrun = Check.told("g2,2,0,10;s0,3;s1,3;");
+        overrun.turn(1);
+        overrun.cut(1, 2);
+        overrun.cut(1, 3);
+        overrun.bless(0);
+        overrun.turn(1);
+        Check.due("overrun", overrun.why(0, 1, 0), 3);
+        Check.due("overrun, golden no more", overrun.golden(0), Check.NONE);
     }
 
     private static void log() {

@@ -9,6 +9,7 @@ public final class ToldTest {
         netFaultsOfCuts();
         netFaultsOfLetters();
         netStandsInPlace();
+        netBeginsAnew();
         netRefusedChangesNothing();
         fault();
         undoEachAct();
@@ -162,6 +163,24 @@ public final class ToldTest {
         Check.due("an image stays", x.restore(1), 1);
         Check.due("count(0) of the image", x.count(0), 4);
         Check.due("golden(0) of the image", x.golden(0), 0);
+    }
+
+    /** What was foretold, or fed, before leaves nothing behind. */
+    private static void netBeginsAnew() {
+        HotLetters x = Check.told(HEAD + "s0,1;s0,2;s0,3;");
+        x.bless(2);
+        x.turn(3);
+        x.ends(0);
+        x.drawn(3, 3, 0);
+        Check.feed(x, "g2,2,0,10");
+        Check.due("the ; of the text before is gone", x.net(), -1000109);
+        x.next(0);
+        Check.feed(x, HEAD + "s0,1;");
+        Check.due("net()", x.net(), 1);
+        Check.due("sums(0)", x.sums(0), 0);
+        Check.due("golden(0)", x.golden(0), Check.NONE);
+        Check.due("log(0)", x.log(0), Check.NONE);
+        Check.due("letter(0, 3)", x.letter(0, 3), 0);
     }
 
     private static void netRefusedChangesNothing() {
