@@ -21,6 +21,10 @@ final class Document {
     private final Map<String, String> texts = new LinkedHashMap<>();
     private final Map<String, boolean[]> quoted = new LinkedHashMap<>();
 
+    static boolean isHere() {
+        return Files.isReadable(FILE);
+    }
+
     Document() throws IOException {
         String part = "";
         StringBuilder text = new StringBuilder();

@@ -10,7 +10,12 @@ final class Edges {
     private Edges() {
     }
 
+    /** Without the document the runs are made all the same; only the quotes are not looked up. */
     private static Document read() {
+        if (!Document.isHere()) {
+            System.out.println("no ../shared/DOC.md here: quotes are not looked up");
+            return null;
+        }
         try {
             return new Document();
         } catch (IOException e) {
@@ -24,11 +29,16 @@ final class Edges {
     }
 
     static void says(String words, String lines) {
-        Check.holds("the document says in " + part + ": " + words, DOCUMENT.quote(part, words));
+        if (DOCUMENT != null) {
+            Check.holds("the document says in " + part + ": " + words, DOCUMENT.quote(part, words));
+        }
         Script.play(part + ", \"" + words + "\"", lines);
     }
 
     static void noneIsLeftOut() {
+        if (DOCUMENT == null) {
+            return;
+        }
         for (String sentence : DOCUMENT.unquoted()) {
             Check.holds("a test for what the document says in " + sentence, false);
         }

@@ -334,7 +334,9 @@ final class EdgesOfForetold {
             cut 2 1
             cut 0 1
             bridges 0..1 = 2 3
-            # The link goes round the ring, from node 0 by port 3 to node 3.
+            # The links go round the ring, from node 0 by port 0 to node 6, by port 3 to node 3.
+            reads g2,4,1,10;c0,1;c0,2;c0,3; = 0
+            bridges 0..1 = 1 0
             reads g4,2,1,10;c0,0;c0,1;c0,2; = 0
             bridges 0..1 = 1 3
             # From node 1 by port 0 to node 3.
@@ -495,10 +497,12 @@ final class EdgesOfForetold {
             cut 4 3
             turn 1
             image 0 = 1
-            tape g2,2,0,10;s0,1;s0,2;s0,3;
-            net = 3
-            bless 1 = 1
-            turn 9
+            # In another net letters of these numbers grow old.
+            tape g2,2,0,10;c0,1;c0,2;s1,0;s2,0;s3,0;s0,1;s0,1;
+            net = 5
+            bless 4 = 1
+            turn 50
+            why 1 0..1 0 = 1 2
             restore 0 = 1
             log 0..1 = 2 NONE
             golden 0..1 = 3 NONE
@@ -518,6 +522,42 @@ final class EdgesOfForetold {
             fault = 1
             restore 0 = 1
             fault = 1
+            """);
+        // Letter 0 was overrun in both, at node 1 and at node 2; in both another link was cut last.
+        Edges.says("All is as an IMAGE kept it", """
+            reads g2,2,0,10;s0,3; = 1
+            turn 1
+            cut 1 3
+            cut 1 2
+            turn 1
+            image 0 = 1
+            tape g2,2,0,10;s3,0;
+            net = 1
+            turn 1
+            cut 2 0
+            cut 2 1
+            turn 1
+            image 1 = 1
+            restore 0 = 1
+            why 0 0..2 1 = 1 1 2
+            node 1 4 = 2
+            node 2 4 = NONE
+            restore 1 = 1
+            why 0 0..2 1 = 1 2 1
+            node 1 4 = NONE
+            node 2 4 = 1
+            # The last node of the greatest net.
+            reads g4,4,0,10; = 0
+            cut 15 3
+            image 0 = 1
+            cut 15 0
+            image 1 = 1
+            restore 0 = 1
+            node 15 4 = 3
+            node 15 1 = 1
+            restore 1 = 1
+            node 15 4 = 0
+            node 15 1 = 0
             """);
         Edges.says("(no ACT can be undone then): 1.", """
             reads g2,2,0,10;s0,3; = 1

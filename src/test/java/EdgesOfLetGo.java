@@ -164,6 +164,17 @@ final class EdgesOfLetGo {
             turn 9
             help = NONE
             """);
+        // First 1, then 2: 4 TURNS; with 1 alone it would be 5, and as it is 2 is first.
+        Edges.says("put first of all GOLDEN ones", """
+            reads g3,2,1,20;h0,5;s0,5;h3,2; = 3
+            bless 2 = 1
+            help = 1
+            reads g3,2,1,20;h0,5;s0,5;h3,2; = 3
+            bless 1 = 1
+            ends 0 = 5
+            bless 2 = 2
+            ends 0 = 4
+            """);
         Edges.says("(there may be 5 then)", """
             reads g4,3,0,20;s4,6;o1,7;s11,10;s11,10;s11,10; = 5
             bless 0 = 1
@@ -297,10 +308,34 @@ final class EdgesOfLetGo {
     }
 
     private static void drawnKinds() {
-        // X is 100842: from 10 to 15, KIND 4, an OPEN one: by 14, where letter 0 takes the way.
+        // X is 42174226, 1962553390, 1571084537, 1571429185, 1747967077: KINDS 1 to 5, each where
+        // a letter of any other KIND would fare otherwise; then the same, written by hand.
         Edges.says("of KIND 1 and what X by 1024 leaves by 5", """
-            reads g4,4,0,10;s13,11; = 1
-            drawn 1 6 0..2 = 4 0 1
+            reads g4,4,0,20;s7,12; = 1
+            drawn 1 513602 0..2 = 6 0 1
+            write 1 2 8 = 1
+            turn 1
+            ends 0 = 6
+            reads g4,3,0,20;s8,5; = 1
+            drawn 1 116770 0..2 = 4 0 1
+            write 2 10 1 = 1
+            turn 1
+            ends 0 = 4
+            reads g3,3,0,20;h1,7; = 1
+            drawn 1 860117 0..2 = 4 0 1
+            write 3 5 6 = 1
+            turn 1
+            ends 0 = 4
+            reads g4,3,0,20;h9,7; = 1
+            drawn 1 476818 0..2 = 5 0 1
+            write 4 1 6 = 1
+            turn 1
+            ends 0 = 5
+            reads g4,3,0,20;h4,6; = 1
+            drawn 1 615095 0..2 = 5 0 1
+            write 5 1 7 = 1
+            turn 1
+            ends 0 = 5
             """);
         Edges.says("from the NODE that X leaves by how many there are to the one that X by 32 (cut)", """
             reads g4,4,0,10; = 0

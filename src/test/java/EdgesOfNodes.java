@@ -237,6 +237,21 @@ final class EdgesOfNodes {
             net = 0
             write 1 3 1 = 0
             """);
+        // Node 15 is cut off, so nobody comes there: all 40 fly at once, and are lost at last.
+        for (int way = 1; way <= 2; way++) {
+            Edges.says("(0 on, 40 at most of a NET)", """
+                reads g4,4,%d,99;c15,0;c15,1;c15,2;c15,3; = 0
+                write 1 0..14 15 = 0..14
+                write 1 0..14 15 = 15..29
+                write 1 0..9 15 = 30..39
+                turn 50 = 0
+                count 1..3 = 40 0 40
+                rank 0 = 0
+                rank 40 = NONE
+                2 times turn 50 = 0
+                sums 2 = 40
+                """.formatted(way));
+        }
         Edges.says("One WAITS in the box of its FROM (behind those that are there)", """
             reads g2,2,0,10;s0,1;s3,1;s0,1; = 3
             write 1 0 1 = 3
@@ -479,6 +494,19 @@ final class EdgesOfNodes {
             turn 2
             letter 0..4 7 = 1 2 2 2 1
             rank 0..5 = 1 2 3 0 4 NONE
+            """);
+        // The greatest number with a little more weight is ahead of the least one.
+        Edges.says("then those of more WEIGHT", """
+            reads g4,4,0,20;c0,1;c0,2;h0,15; = 1
+            38 times write 1 14 13 = 1..38
+            turn 50 = 38
+            mend 0 1
+            mend 0 2
+            write 1 15 0 = 39
+            turn 2
+            letter 0 7 = 1
+            letter 39 7 = 2
+            rank 0..2 = 39 0 NONE
             """);
         Edges.says("(Asked between two TURNS: as the next one will have it.)", MEETING + """
             rank 0..1 = 0 1

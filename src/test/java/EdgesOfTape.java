@@ -3,6 +3,10 @@ final class EdgesOfTape {
     /** 10 bytes, 3 cuts of 6, 16 letters of 7: 140 bytes. */
     private static final String LONGEST = "g4,4,0,20;c10,1;c10,2;c10,3;{s10,11;*16}";
 
+    /** By ports 1 and 2 of nodes 0 to 9: 20 cuts of 5 bytes. */
+    private static final String SHORT_CUTS = "c0,1;c0,2;c1,1;c1,2;c2,1;c2,2;c3,1;c3,2;c4,1;c4,2;"
+            + "c5,1;c5,2;c6,1;c6,2;c7,1;c7,2;c8,1;c8,2;c9,1;c9,2;";
+
     private EdgesOfTape() {
     }
 
@@ -34,7 +38,15 @@ final class EdgesOfTape {
             count 4 = 21
             count 6 = 0
             feed 103 = 1
-            """.formatted(LONGEST));
+            # Cuts alone, up to the last byte.
+            new
+            tape g4,4,1,20;%s
+            tape c10,1;c10,2;c11,1;c11,2;c12,1;
+            count 6 = 140
+            feed 99 = FULL
+            net = 0
+            count 4 = 7
+            """.formatted(LONGEST, SHORT_CUTS));
         Edges.says("that come one by one", """
             new
             count 6 = 0
@@ -265,6 +277,24 @@ final class EdgesOfTape {
             letter 0..1 9 = NONE NONE
             count 2 = 2
             sums 0 = 0
+            # What was foretold leaves nothing behind, either.
+            bless 1 = 1
+            ends 0 = 4
+            drawn 3 3 0
+            tape g2,2,0,10;s0,1;
+            net = 1
+            sums 0..5 = 0 0 0 0 0 NONE
+            golden 0 = NONE
+            log 0 = NONE
+            turn 2 = 1
+            log 0..1 = 0 NONE
+            write 1 0 3 = 1
+            bless 1 = 1
+            next 1 = 1
+            tape g2,2,0,10;s0,1;s0,1;
+            net = 2
+            golden 0 = NONE
+            letter 1 10 = 0
             """);
         Edges.says("no ACT can be undone", """
             reads g2,2,0,10;s0,1; = 1
@@ -382,6 +412,16 @@ final class EdgesOfTape {
             net = 1
             tape g2,2,0,10
             net = -1000109
+            tape g2,2,0,1
+            net = -1000107
+            fault = 2
+            tape g2,2,0,10;
+            net = 0
+            tape g2,2,0,10;c0,1;
+            net = 0
+            tape g2,2,0,10;
+            net = 0
+            count 4 = 4
             # A tape that is full, without its last sign.
             new
             tape g4,4,0,20;c10,1;c10,2;c10,03;{s10,11;*15}s10,11

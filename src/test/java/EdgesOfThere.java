@@ -132,6 +132,15 @@ final class EdgesOfThere {
             undo = 1
             node 4 4 = 0
             node 3 4 = NONE
+            # The last node of all.
+            reads g4,4,0,20; = 0
+            cut 15 0
+            cut 15 3
+            node 15 4 = 3
+            undo = 1
+            node 15 4 = 0
+            undo = 0
+            node 15 4 = NONE
             """);
         Edges.says("BAD.", """
             reads g2,2,0,10; = 0
@@ -202,6 +211,11 @@ final class EdgesOfThere {
             box 3 39..40 = 39 NONE
             box 3 MAX = NONE
             box 0 0 = NONE
+            # What flies there is not in the box.
+            reads g2,2,0,10;s0,3; = 1
+            turn 1
+            at 1 0 = 0
+            box 0..3 0 = NONE
             """);
         Edges.says("BAD.", """
             reads g2,2,0,10;s0,1; = 1
@@ -425,7 +439,9 @@ final class EdgesOfThere {
             why 0 1 0..1 = 2 10
             why 0 2 0..1 = NONE
             why 1 0..2 0 = NONE
+            why 1 0..2 1 = NONE
             why 2 0..2 0 = NONE
+            why 2 0..2 1 = NONE
             """);
         Edges.says("BAD.", lost + """
             why -1 0 0 = BAD
